@@ -613,7 +613,7 @@ public final class FewEnds {
         int rest = yarn;
         for (int i = 0; i < chart.stitches; i++) {
             if (chart.hues[i] == colour) {
-                rest -= chart.yarns[colour] + chart.strandOf(plan.earlier[i], i);
+                rest -= chart.yarnAt(i) + chart.strandOf(plan.earlier[i], i);
                 if (rest < 0) {
                     return answer(i);
                 }
@@ -1051,10 +1051,10 @@ public final class FewEnds {
             return NONE;
         }
 
+        /** Gives one STITCH another COLOUR, for what is reckoned by STITCHES; the cells stay as they are. */
         void recolour(int stitch, int colour) {
             if (hasStitch(stitch) && hasColour(colour)) {
                 hues[stitch] = colour;
-                cells[rows[stitch] * settings[WIDTH] + places[stitch]] = colour;
             }
         }
 
@@ -1185,10 +1185,15 @@ public final class FewEnds {
             int step = settings[TWIST];
             if (way == TWISTED && step > 0) {
                 for (int k = i + step; k < j; k += step) {
-                    price += shows[hues[k]];
+                    int hue = hues[k];
+                    price += hue >= 0 && hue < MOST_COLOURS ? shows[hue] : 0;
                 }
             }
             return price;
+        }
+
+        int yarnAt(int stitch) {
+            return hasStitch(stitch) && hasColour(hues[stitch]) ? yarns[hues[stitch]] : 0;
         }
 
         /** YARN of a LINK; 0 where there can be none. */
@@ -1221,20 +1226,31 @@ public final class FewEnds {
         }
 
         boolean isOpen(int i, int j) {
-            return later[i] == NONE && earlier[j] == NONE;
+            return isCouple(i, j) && later[i] == NONE && earlier[j] == NONE;
         }
 
         void join(int i, int j) {
-            later[i] = j;
-            earlier[j] = i;
+            if (isCouple(i, j)) {
+                later[i] = j;
+                earlier[j] = i;
+            }
         }
 
         void part(int i) {
-            int j = later[i];
-            if (j != NONE) {
+            int j = after(i);
+            if (isCouple(i, j)) {
                 later[i] = NONE;
                 earlier[j] = NONE;
             }
+        }
+
+        private boolean isCouple(int i, int j) {
+            return i >= 0 && i < j && j < MOST_STITCHES;
+        }
+
+        /** The STITCH to which a LINK goes from one; NONE without a LINK, or without that STITCH. */
+        int after(int i) {
+            return i >= 0 && i < MOST_STITCHES ? later[i] : NONE;
         }
 
         int threadsOf(Chart chart, int colour) {
@@ -1263,28 +1279,28 @@ public final class FewEnds {
 
         int lastFrom(int first) {
             int last = first;
-            for (int k = 0; k < MOST_STITCHES && later[last] != NONE; k++) {
-                last = later[last];
+            for (int k = 0; k < MOST_STITCHES && after(last) != NONE; k++) {
+                last = after(last);
             }
             return last;
         }
 
         int stitchesFrom(int first) {
-            int many = 1;
+            int many = 0;
             int i = first;
-            for (int k = 0; k < MOST_STITCHES && later[i] != NONE; k++) {
-                i = later[i];
+            for (int k = 0; k < MOST_STITCHES && i != NONE; k++) {
                 many++;
+                i = after(i);
             }
             return many;
         }
 
         int yarnFrom(Chart chart, int first) {
-            int sum = chart.yarns[chart.hues[first]];
+            int sum = 0;
             int i = first;
-            for (int k = 0; k < MOST_STITCHES && later[i] != NONE; k++) {
-                sum += chart.strandOf(i, later[i]) + chart.yarns[chart.hues[first]];
-                i = later[i];
+            for (int k = 0; k < MOST_STITCHES && i != NONE; k++) {
+                sum += chart.yarnAt(i) + chart.strandOf(i, after(i));
+                i = after(i);
             }
             return sum;
         }
@@ -1293,7 +1309,7 @@ public final class FewEnds {
             int sum = 0;
             for (int i = 0; i < chart.stitches; i++) {
                 if (chart.hues[i] == colour) {
-                    sum += chart.yarns[colour] + chart.strandOf(i, later[i]);
+                    sum += chart.yarnAt(i) + chart.strandOf(i, later[i]);
                 }
             }
             return sum;
@@ -2058,7 +2074,7 @@ public final class FewEnds {
                     addSource(i);
                 } else if (chart.rows[i] == row - 1) {
                     int later = plan.later[i];
-                    if (later == NONE || chart.rows[later] >= row) {
+                    if (!chart.hasStitch(later) || chart.rows[later] >= row) {
                         addSource(i);
                     }
                 }
@@ -2174,8 +2190,9 @@ public final class FewEnds {
         private void shift(int at, int root) {
             int step = distances[at];
             for (int column = 0; column <= root; column++) {
-                if (reached[column]) {
-                    goalShares[holders[column]] += step;
+                int goal = holders[column];
+                if (reached[column] && goal != NONE) {
+                    goalShares[goal] += step;
                     columnShares[column] -= step;
                 } else {
                     distances[column] -= step;

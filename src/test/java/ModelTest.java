@@ -161,8 +161,9 @@ public final class ModelTest {
     }
 
     private String chartText(boolean small) {
-        int width = small ? any(1, 4) : any(1, 8);
-        int height = small ? any(1, 3) : any(1, 6);
+        boolean largest = !small && once(6);
+        int width = largest ? 8 : small ? any(1, 4) : any(1, 8);
+        int height = largest ? 6 : small ? any(1, 3) : any(1, 6);
         int colours = once(3) ? any(1, 5) : any(2, 3);
         List<String> names = new ArrayList<>();
         while (names.size() < colours) {

@@ -150,6 +150,8 @@ public final class TextTest {
             chartGood("size 1 1;colour " + word + "s shows 1 yarn 1;row " + word + "s;", 1);
         }
         chartGood("size 1 1;colour abcdefgh shows 1 yarn 1;row abcdefgh;", 1);
+        chartGood("size 2 1;colour azzzzzzz shows 1 yarn 1;colour z shows 1 yarn 1;row z azzzzzzz;", 2);
+        chartFault("size 2 1;colour a shows 1 yarn 1;colour aa shows 1 yarn 1;row aa aaa;", 3, 65);
         chartFault("size 1 1;colour abcdefghi shows 1 yarn 1;", 2, 16);
         chartFault("size 1 1;colour 1", 2, 16);
         chartFault("size 1 1;colour ;", 2, 16);
@@ -331,6 +333,10 @@ public final class TextTest {
         CHECK.good(11, x, "three loops", Check.directions(x, "loop 48;loop 1;loop 1;knit w 48;end;end;end;"), 4);
         CHECK.good(11, x, "three loops twice",
             Check.directions(x, steps(2, "loop 1;loop 1;loop 1;end;end;loop 1;end;end;")), 8);
+        // As many lines as can stand in 300 bytes.
+        CHECK.good(11, x, "30 loops", Check.directions(x, steps(30, "loop1;end;")), 30);
+        CHECK.good(11, x, "follow() of 30 loops", x.follow(), 1);
+        CHECK.good(11, x, "followed(3) of 30 loops", x.followed(3), 30);
         stepsFault(steps(40, "cut w;") + "cut", 6, 240);
         stepsFault(steps(40, "cut w;") + "knit w 1;", 6, 240);
         stepsFault(steps(37, "cut w;") + "loop 1;loop 1;loop 1;loop 1;", 6, 243);
