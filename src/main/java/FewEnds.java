@@ -510,10 +510,10 @@ public final class FewEnds {
     }
 
     public int fewAt(int k, int what) {
-        if (k < 0 || what < 0 || what > 2) {
+        if (what < 0 || what > 2) {
             return none(BAD_NUMBER);
         }
-        if (k >= alterations.toldOnes) {
+        if (k < 0 || k >= alterations.toldOnes) {
             return none(NONE_SUCH);
         }
         return answer(alterations.toldAt(k, what));

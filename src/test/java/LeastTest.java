@@ -232,6 +232,7 @@ public final class LeastTest {
         CHECK.none(41, x, "few(0)", x.few(0), 1);
         CHECK.none(41, x, "few(5)", x.few(5), 1);
         CHECK.none(42, x, "fewAt(0, 0) ahead of few()", x.fewAt(0, 0), 6);
+        CHECK.none(42, x, "fewAt(-1, 0) ahead of few()", x.fewAt(-1, 0), 6);
         CHECK.good(41, x, "few(1)", x.few(1), 1);
         fewAre(x, new int[] {0, 1, 1});
         CHECK.good(41, x, "few(4)", x.few(4), 3);
@@ -259,7 +260,12 @@ public final class LeastTest {
         x.few(2);
         x.few(0);
         CHECK.good(42, x, "fewAt(1, 0): few() with another STATUS leaves them", x.fewAt(1, 0), 2);
-        CHECK.none(42, x, "fewAt(-1, 0)", x.fewAt(-1, 0), 1);
+        // No range is told for k: there is none such below the first, just as behind the last.
+        CHECK.none(42, x, "fewAt(-1, 0)", x.fewAt(-1, 0), 6);
+        CHECK.none(42, x, "fewAt(-2147483648, 2)", x.fewAt(Integer.MIN_VALUE, 2), 6);
+        CHECK.none(42, x, "fewAt(2147483647, 2)", x.fewAt(Integer.MAX_VALUE, 2), 6);
+        CHECK.none(42, x, "fewAt(-1, -1): what comes first", x.fewAt(-1, -1), 1);
+        CHECK.none(42, x, "fewAt(-1, 3): what comes first", x.fewAt(-1, 3), 1);
         CHECK.none(42, x, "fewAt(0, -1)", x.fewAt(0, -1), 1);
         CHECK.none(42, x, "fewAt(0, 3)", x.fewAt(0, 3), 1);
         CHECK.none(42, x, "fewAt(2, 3)", x.fewAt(2, 3), 1);

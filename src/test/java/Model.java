@@ -1079,9 +1079,8 @@ public final class Model {
 
     public int fewAt(int k, int what) {
         return (int) call(() -> {
-            need(k >= 0, 1);
             needRange(what, 0, 2);
-            need(k < few.size(), 6);
+            need(k >= 0 && k < few.size(), 6);
             return few.get(k)[(what + 1) % 3];
         });
     }
