@@ -5,6 +5,8 @@ public final class LeastTest {
     public static void main(String[] args) {
         least();
         leastIsNoGreed();
+        leastByChains();
+        leastOfMost();
         fewest();
         gap();
         worth();
@@ -60,6 +62,39 @@ public final class LeastTest {
         CHECK.good(34, y, "fewest(0)", y.fewest(0), 2);
     }
 
+    /** STITCHES that must give up the LINK that is cheapest for them, so that the sum is least. */
+    private static void leastByChains() {
+        FewEnds x = Check.knitted("size 4 2;colour a shows 1 yarn 1;colour b shows 3 yarn 1;"
+            + "row a b a b;row a a b a;end 2;carry 0 cost 0;twist 1;wait 1 cost 1;");
+        // a: 0 and 2 begin (8), 2 to 4 and 0 to 6 WAIT (2), 6 to 7 is NEXT; 0 to 2 and 4 to 6 would be 3 each.
+        CHECK.good(33, x, "least(0) by chains", x.least(0), 10);
+        // b: 1 begins (4), 1 to 3 is TWISTED (1), 3 to 5 WAITS (1).
+        CHECK.good(33, x, "least(1) by chains", x.least(1), 6);
+        FewEnds y = Check.knitted("size 4 3;colour a shows 0 yarn 1;colour b shows 3 yarn 1;"
+            + "row a a b a;row a a b b;row b a b b;end 4;carry 2 cost 2;wait 0 cost 1;");
+        // a: 0, 3 and 9 begin (24), 0 to 1 and 6 to 7 are NEXT, 1 to 6 WAITS (1).
+        CHECK.good(33, y, "least(0) of three ROWS", y.least(0), 25);
+        // b: 2, 4 and 8 begin (24), 4 to 5 and 10 to 11 are NEXT, 5 to 10 WAITS (1).
+        CHECK.good(33, y, "least(1) of three ROWS", y.least(1), 25);
+        CHECK.good(33, y, "least(NONE) of three ROWS", y.least(-1), 50);
+    }
+
+    private static void leastOfMost() {
+        String size = "size 8 6;colour a shows 1 yarn 1;colour b shows 1 yarn 1;";
+        FewEnds x = Check.knitted(size + "row a a a a a a a a;".repeat(6));
+        CHECK.good(33, x, "least(0) of 48 STITCHES", x.least(0), 20);
+        CHECK.good(34, x, "fewest(0) of 48 STITCHES", x.fewest(0), 1);
+        CHECK.good(37, x, "rowAlone(5) of 8 STITCHES", x.rowAlone(5), 0);
+        // One call leaves nothing for the next.
+        FewEnds y = Check.knitted(size + "row a a a a b b b b;".repeat(6) + "wait 0 cost 1;");
+        for (int k = 0; k < 9; k++) {
+            CHECK.good(33, y, "least(0) of half the STITCHES", y.least(0), 20 + 3);
+            CHECK.good(33, y, "least(1) of half the STITCHES", y.least(1), 20 + 2);
+            CHECK.good(37, y, "rowAlone(1) of them", y.rowAlone(1), 1);
+            CHECK.good(34, y, "fewest(NONE) of them", y.fewest(-1), 2);
+        }
+    }
+
     private static void fewest() {
         FewEnds x = Check.knitted(ChartTest.THERE);
         CHECK.good(34, x, "fewest(0)", x.fewest(0), 1);
@@ -103,6 +138,10 @@ public final class LeastTest {
         CHECK.good(36, y, "worth() of nothing", y.worth());
         CHECK.due(36, "top(): 0 of 7", y.top(), 0);
         CHECK.due(36, "bottom(): 0 of 7", y.bottom(), 1);
+        FewEnds least = Check.knitted("size 2 1;colour a shows 1 yarn 1;row a a;end 0;balls 1 cost 1;");
+        CHECK.good(36, least, "worth() by a COST of 1", least.worth());
+        CHECK.due(36, "top(): 0 of 1", least.top(), 0);
+        CHECK.due(36, "bottom(): 0 of 1", least.bottom(), 1);
         FewEnds z = Check.knitted("size 2 1;colour a shows 1 yarn 1;row a a;end 3;balls 1 cost 1;");
         CHECK.good(36, z, "worth()", z.worth());
         CHECK.due(36, "top(): 6 of 13", z.top(), 6);
@@ -204,6 +243,10 @@ public final class LeastTest {
         CHECK.good(40, y, "best(0) of another CHART", y.best(0), 17);
         CHECK.good(40, y, "best(1) of another CHART", y.best(1), 2);
         CHECK.good(40, y, "best(2) of another CHART", y.best(2), 0);
+        FewEnds alone = Check.knitted(row("b", ""));
+        CHECK.good(40, alone, "best(0) of one STITCH", alone.best(0), -5);
+        CHECK.good(40, alone, "best(1) of one STITCH", alone.best(1), 0);
+        CHECK.good(40, alone, "best(2) of one STITCH", alone.best(2), 0);
         FewEnds one = Check.knitted("size 2 1;colour a shows 1 yarn 1;row a a;");
         CHECK.none(40, one, "best(0) of one COLOUR", one.best(0), 6);
         CHECK.none(40, one, "best(3) of one COLOUR", one.best(3), 1);

@@ -54,6 +54,9 @@ public final class PatchTest {
             CHECK.good(46, x, "patch(" + i + ", 1)", x.patch(i, 1), 1);
             CHECK.good(46, x, "patch(" + i + ", 2)", x.patch(i, 2), 2);
         }
+        CHECK.good(46, x, "patch(0, 0)", x.patch(0, 0), 1);
+        CHECK.good(46, x, "patch(0, 1)", x.patch(0, 1), 0);
+        CHECK.good(46, x, "patch(0, 2)", x.patch(0, 2), 1);
         CHECK.good(46, x, "patch(5, 0)", x.patch(5, 0), 1);
         CHECK.good(46, x, "patch(5, 1)", x.patch(5, 1), 5);
         CHECK.good(46, x, "patch(5, 2)", x.patch(5, 2), 1);
@@ -123,6 +126,10 @@ public final class PatchTest {
         FewEnds y = Check.knitted("size 4 1;" + FOUR + "row a b c d;carry 0 cost 0;");
         CHECK.good(51, y, "mirrored() of 4", y.mirrored(), 2);
         CHECK.good(52, y, "mirrorLeast() of 4", y.mirrorLeast(), 20 + 20 + 20);
+        // Whatever was asked ahead of it.
+        FewEnds first = Check.knitted("size 4 1;" + FOUR + "row a b c d;carry 0 cost 0;");
+        CHECK.good(54, first, "window(0, 0, 0, 0) of 4", first.window(0, 0, 0, 0), 20);
+        CHECK.good(52, first, "mirrorLeast() behind window()", first.mirrorLeast(), 20 + 20 + 20);
         FewEnds z = Check.knitted("size 1 1;" + FOUR + "row b;");
         CHECK.good(51, z, "mirrored() of 1", z.mirrored(), 0);
         CHECK.good(52, z, "mirrorLeast() of 1", z.mirrorLeast(), 20);

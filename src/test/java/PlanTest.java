@@ -160,6 +160,8 @@ public final class PlanTest {
             tray(x, 0, 3, 0, 1, couple[0], couple[1]);
             CHECK.refused(23, x, "plan() with " + couple[0] + " " + couple[1], x.plan(0, 2), 5);
             CHECK.refused(23, x, "plan() without it", x.plan(0, 1), 7);
+            tray(x, 0, 3, couple[0], couple[1], 0, 3);
+            CHECK.refused(23, x, "plan() with it first", x.plan(0, 2), 5);
         }
         tray(x, 0, 0, 0, 99, 1);
         CHECK.refused(23, x, "plan(0, 2): too few ahead of wrong ones", x.plan(0, 2), 3);

@@ -18,6 +18,7 @@ public final class TextTest {
         directionsFaults();
         directionsLimits();
         fault();
+        cutOff();
         CHECK.end("TextTest");
     }
 
@@ -366,5 +367,28 @@ public final class TextTest {
         CHECK.due(12, "fault(0): STATUS 1 leaves it", x.fault(0), 4);
         CHECK.due(12, "fault(1): STATUS 1 leaves it", x.fault(1), 7);
         CHECK.due(12, "fault(2) with one", x.fault(2), -1);
+        Check.directions(x, "knit w 1;");
+        CHECK.due(12, "fault(0) without one any more", x.fault(0), 0);
+        CHECK.due(12, "fault(1) without one any more", x.fault(1), -1);
+    }
+
+    /** What stands behind the first n bytes is no part of the TEXT. */
+    private static void cutOff() {
+        FewEnds x = new FewEnds();
+        Check.feed(x, ONE + "round;");
+        CHECK.none(10, x, "chart() up to roun", x.chart(ONE.length() + 4), 9);
+        CHECK.due(12, "fault(0) of roun", x.fault(0), 2);
+        CHECK.due(12, "fault(1) of roun", x.fault(1), ONE.length());
+        Check.feed(x, ONE + "end 12345;");
+        CHECK.none(10, x, "chart() up to 1234", x.chart(ONE.length() + 8), 9);
+        CHECK.due(12, "fault(0) of 1234", x.fault(0), 4);
+        CHECK.due(12, "fault(1) of 1234", x.fault(1), ONE.length() + 4);
+        Check.feed(x, ONE + "rounds");
+        CHECK.good(10, x, "chart() up to the row", x.chart(ONE.length()), 1);
+        Check.feed(x, "loop 2;knit w 1;end;");
+        CHECK.none(11, x, "directions() ahead of the end", x.directions(16), 9);
+        CHECK.none(11, x, "an end of a loop in the TEXT ahead", Check.directions(x, "end;"), 9);
+        CHECK.due(12, "fault(0) of the end", x.fault(0), 2);
+        CHECK.due(12, "fault(1) of the end", x.fault(1), 0);
     }
 }
