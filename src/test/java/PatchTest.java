@@ -93,6 +93,9 @@ public final class PatchTest {
         CHECK.none(48, x, "lessened(0, 6)", x.lessened(0, 6), 1);
         CHECK.none(48, x, "lessened(-1, 1)", x.lessened(-1, 1), 1);
         CHECK.none(48, x, "lessened(3, 1)", x.lessened(3, 1), 1);
+        FewEnds first = Check.knitted("size 3 1;" + FOUR + "row a b b;");
+        CHECK.good(47, first, "machine(1): the first STITCH alone", first.machine(1), 1);
+        CHECK.good(48, first, "lessened(0, 1): the first STITCH alone", first.lessened(0, 1), 1);
         FewEnds empty = new FewEnds();
         CHECK.good(47, empty, "machine(1) without a CHART", empty.machine(1), 0);
     }

@@ -154,6 +154,8 @@ public final class TextTest {
         chartGood("size 2 1;colour azzzzzzz shows 1 yarn 1;colour z shows 1 yarn 1;row z azzzzzzz;", 2);
         chartFault("size 2 1;colour a shows 1 yarn 1;colour aa shows 1 yarn 1;row aa aaa;", 3, 65);
         chartFault("size 1 1;colour abcdefghi shows 1 yarn 1;", 2, 16);
+        chartFault("size 1 1;colour 12345 shows 1 yarn 1;row w;", 1, 16);
+        chartFault("size 1 1;colour w 12345 shows 1 yarn 1;row w;", 1, 18);
         chartFault("size 1 1;colour 1", 2, 16);
         chartFault("size 1 1;colour ;", 2, 16);
         chartFault("size 1 1;colour", 2, 15);
@@ -286,6 +288,10 @@ public final class TextTest {
     private static void directionsFaults() {
         stepsFault("knit w 1; -", 1, 10);
         stepsFault("knit w 12345;", 1, 7);
+        stepsFault("knit 12345 1;", 1, 5);
+        stepsFault("knit 12345 w 1;", 1, 5);
+        stepsFault("cut 12345;", 1, 4);
+        stepsFault("loop 12345 2;end;", 1, 5);
         stepsFault("knit 1 1;", 2, 5);
         stepsFault("knit knit 1;", 2, 5);
         stepsFault("knit cut 1;", 2, 5);
