@@ -1655,7 +1655,7 @@ public final class FewEnds {
                 return readPriced(CARRY, 0, 47, 9);
             }
             if (tape.isWord("twist")) {
-                return readSetting(TWIST, 1, 9);
+                return readSetting(TWIST, 0, 9);
             }
             if (tape.isWord("wait")) {
                 return readPriced(WAIT, 0, 7, 99);

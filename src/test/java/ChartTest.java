@@ -177,8 +177,16 @@ public final class ChartTest {
         FewEnds x = Check.knitted("size 4 1;colour a shows 1 yarn 1;colour b shows 2 yarn 1;"
             + "row a b b a;carry 0 cost 2;twist 1;");
         way(x, 0, 3, 3, 4 + 4, 2);
-        FewEnds y = Check.knitted("size 4 1;colour a shows 1 yarn 1;colour b shows 2 yarn 1;"
-            + "row a b b a;carry 1 cost 2;");
-        way(y, 0, 3, 0, 0, 0);
+        // Never, told or not: what is beyond CARRY can't be.
+        for (String never : new String[] {"", "twist 0;"}) {
+            FewEnds y = Check.knitted("size 4 1;colour a shows 1 yarn 1;colour b shows 2 yarn 1;"
+                + "row a b b a;carry 1 cost 2;" + never);
+            CHECK.good(13, y, "told(6), never", y.told(6), 0);
+            way(y, 0, 3, 0, 0, 0);
+            way(y, 1, 2, 1, 0, 0);
+            FewEnds z = Check.knitted("size 4 1;colour a shows 1 yarn 1;colour b shows 2 yarn 1;"
+                + "row a b b a;carry 2 cost 2;" + never);
+            way(z, 0, 3, 2, 4, 2);
+        }
     }
 }

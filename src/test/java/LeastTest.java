@@ -108,7 +108,7 @@ public final class LeastTest {
         CHECK.good(34, y, "fewest(2): no STITCHES", y.fewest(2), 0);
         CHECK.good(34, y, "fewest(NONE)", y.fewest(-1), 2);
         FewEnds z = Check.knitted("size 4 1;colour a shows 1 yarn 1;colour b shows 1 yarn 1;row a b b a;"
-            + "carry 1 cost 0;end 0;");
+            + "carry 1 cost 0;end 0;twist 0;");
         CHECK.good(34, z, "fewest(0): too far", z.fewest(0), 2);
         CHECK.good(34, z, "fewest(NONE): too far", z.fewest(-1), 3);
     }

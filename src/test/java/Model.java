@@ -313,7 +313,7 @@ public final class Model {
     static {
         RANGES.put("end", new int[] {0, 99});
         RANGES.put("carry", new int[] {0, 47, 9});
-        RANGES.put("twist", new int[] {1, 9});
+        RANGES.put("twist", new int[] {0, 9});
         RANGES.put("wait", new int[] {0, 7, 99});
         RANGES.put("balls", new int[] {1, 48, 99});
         RANGES.put("strand", new int[] {0, 99});

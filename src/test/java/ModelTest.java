@@ -199,7 +199,7 @@ public final class ModelTest {
         String[] all = {
             "end " + (once(6) ? any(0, 99) : any(0, 12)),
             "carry " + (once(6) ? any(0, 47) : any(0, 4)) + " cost " + (once(3) ? any(0, 9) : any(0, 2)),
-            "twist " + any(1, 9), "wait " + any(0, 7) + " cost " + (once(6) ? any(0, 99) : any(0, 12)),
+            "twist " + (once(4) ? 0 : any(1, 9)), "wait " + any(0, 7) + " cost " + (once(6) ? any(0, 99) : any(0, 12)),
             "balls " + (once(6) ? any(1, 48) : any(1, 3)) + " cost " + (once(4) ? any(0, 99) : any(0, 9)),
             "strand " + (once(4) ? any(0, 99) : any(0, 4)), "sew " + (once(4) ? any(0, 999) : any(0, 9)),
             "alter " + (once(4) ? any(0, 999) : any(0, 6)), "round"};

@@ -231,12 +231,13 @@ public final class TextTest {
     private static void settings() {
         setting("end", 0, 99, "");
         setting("carry", 0, 47, " cost 1");
-        setting("twist", 1, 9, "");
+        setting("twist", 0, 9, "");
         setting("wait", 0, 7, " cost 1");
         setting("balls", 1, 48, " cost 1");
         setting("strand", 0, 99, "");
         setting("sew", 0, 999, "");
         setting("alter", 0, 999, "");
+        twistNever();
         cost("carry", 9);
         cost("wait", 99);
         cost("balls", 99);
@@ -245,6 +246,18 @@ public final class TextTest {
         chartFault(ONE + "round 1;", 2, ONE.length() + 6);
         chartFault(ONE + "round;round;", 5, ONE.length() + 6);
         chartGood("size 1 1;round;end 5;colour w shows 1 yarn 1;sew 3;row w;alter 1;", 1);
+    }
+
+    /** A TWIST of 0 may be told; the first FAULT along the text is then behind it. */
+    private static void twistNever() {
+        chartGood(ONE + "twist 0000;", 1);
+        chartFault(ONE + "twist 0", 2, ONE.length() + 7);
+        chartFault(ONE + "twist 0\u0000", 1, ONE.length() + 7);
+        chartFault(ONE + "twist 0 row w;", 2, ONE.length() + 8);
+        chartFault(ONE + "twist 00000;", 1, ONE.length() + 6);
+        chartFault(ONE + "twist 0;twist 3;", 5, ONE.length() + 8);
+        chartFault(ONE + "twist 3;twist 0;", 5, ONE.length() + 8);
+        chartFault(ONE + "twist 0;end 100;", 4, ONE.length() + 12);
     }
 
     private static void ends() {
