@@ -142,6 +142,12 @@ public final class DirectionsEdgeTest {
         fault("loop ^12345;", 1);
         fault("^12345", 1);
         fault("cut a ^55555", 1);
+        fault("cut ^12345", 1);
+        fault("knit ^12345", 1);
+        fault("knit a 1 ^12345", 1);
+        fault("loop 1 ^12345", 1);
+        fault("loop 1;^12345", 1);
+        fault("loop 1;end ^12345", 1);
     }
 
     private static void steps() {

@@ -20,6 +20,7 @@ public final class StatusEdgeTest {
         rangesOfTheTape();
         eachOfTrays();
         eachOfTheRest();
+        zeroBehindAnother();
         firstOfSeveral();
         firstOfSeveralInPlans();
         refusedChangesNothing();
@@ -249,6 +250,40 @@ public final class StatusEdgeTest {
         EDGES.good(x, "goes(1)", x.goes(1), 2);
         EDGES.good(x, "clear()", x.clear());
         EDGES.good(x, "directions(0)", x.directions(0), 0);
+    }
+
+    /** Each call tells its own STATUS: 0, though that of the call ahead was another one. */
+    private static void zeroBehindAnother() {
+        EDGES.says(2, "STATUS of the latest call that has one.");
+        List<Call> all = new ArrayList<>(List.of(x -> bit(x.tray(3, 0, 1)), x -> bit(x.write(0, 0, 1)),
+            x -> x.read(0, 0), x -> bit(x.pour(0, 0, 2, 0, 1)), x -> x.told(0), x -> x.colour(0, 0),
+            x -> x.colour(0, 1), x -> x.colour(0, 2), x -> x.stitch(0, 0), x -> x.stitch(0, 1), x -> x.stitch(0, 2),
+            x -> x.at(0, 0), x -> x.lawful(0, 1), x -> x.lawful(3, 4), x -> x.cost(3, 4), x -> x.yarnOf(3, 4),
+            x -> bit(x.link(4, 6)), x -> bit(x.unlink(3)), x -> bit(x.clear()), x -> bit(x.plan(0, 0)),
+            x -> x.goes(3), x -> x.comes(4), x -> x.threads(-1), x -> x.threads(0), x -> x.thread(0, 0),
+            x -> x.thread(0, 1), x -> x.thread(0, 2), x -> x.thread(0, 3), x -> x.thread(0, 4), x -> x.hangs(0),
+            x -> x.tangle(0), FewEnds::planCost, FewEnds::longest, x -> x.yarn(0), x -> x.least(-1), x -> x.least(0),
+            x -> x.fewest(-1), x -> x.fewest(0), FewEnds::gap, x -> bit(x.worth()), x -> x.rowAlone(1)));
+        all.addAll(List.of(FewEnds::other, x -> x.saves(0, 1), x -> x.best(0), x -> x.best(1), x -> x.best(2),
+            x -> x.few(1), x -> x.fewAt(0, 0), x -> x.fewAt(0, 1), x -> x.fewAt(0, 2), FewEnds::sewn,
+            FewEnds::sewnCost, x -> x.patches(-1), x -> x.patches(0), x -> x.patch(0, 0), x -> x.patch(0, 1),
+            x -> x.patch(0, 2), x -> x.machine(1), x -> x.lessened(0, 1), x -> x.behind(0), FewEnds::thickest,
+            FewEnds::mirrored, FewEnds::mirrorLeast, x -> x.lasts(0, 1), x -> x.window(0, 0, 0, 0), x -> x.seam(0),
+            FewEnds::matched, x -> x.buy(0, 1), x -> x.runsOut(1), FewEnds::plain, FewEnds::fill, FewEnds::tidy,
+            FewEnds::follow, x -> x.followed(0), x -> x.followed(1), x -> x.followed(2), x -> x.followed(3),
+            x -> bit(x.take()), FewEnds::back, x -> x.chart(46)));
+        for (int k = 0; k < all.size(); k++) {
+            FewEnds x = rich();
+            x.read(-1, 0);
+            all.get(k).on(x);
+            EDGES.due("status() of call " + k, x.status(), 0);
+        }
+        FewEnds x = rich();
+        x.back();
+        x.read(-1, 0);
+        EDGES.good(x, "mark()", x.mark(), 3);
+        x.chart(0);
+        EDGES.good(x, "directions()", Check.directions(x, "cut w;"), 1);
     }
 
     // ---- which STATUS comes first

@@ -197,6 +197,15 @@ public final class TextEdgeTest {
         wrong("size 1 1;colour w shows 1 yarn ^00001;", 1);
         wrong(ONE + "end ^00000;", 1);
         wrong("^12345", 1);
+        wrong("size 1 1;colour ^12345", 1);
+        wrong("size 1 1;colour w ^12345", 1);
+        wrong("size 1 1;colour w shows 1 ^12345", 1);
+        wrong("size 1 1;colour w shows 1 yarn 1 ^12345", 1);
+        wrong(HEAD + "row ^12345", 1);
+        wrong(HEAD + "row w ^12345", 1);
+        wrong(HEAD + "row w b ^12345", 1);
+        wrong(ONE + "carry 1 ^12345", 1);
+        wrong(ONE + "round ^12345", 1);
     }
 
     // ---- the grammar
